@@ -633,12 +633,15 @@ public final class ModelTest {
         }
     }
 
-    // How often each of the calls 0 to 25 is chosen, in runs of three tempers.
+    // How often each of the calls 0 to 25 is chosen, in runs of four tempers; the last one is
+    // a crowd: many things of one cell, so that the row comes to its longest.
     private static final int[][] WEIGHTS = {
         {8, 6, 8, 3, 3, 12, 6, 3, 2, 20, 1, 2, 4, 3, 2, 3, 2, 2, 3, 2, 2, 2, 2, 2, 1, 4},
         {20, 8, 4, 1, 1, 10, 3, 3, 1, 20, 1, 1, 5, 1, 1, 2, 1, 1, 2, 1, 1, 1, 1, 1, 1, 4},
         {6, 6, 12, 1, 3, 25, 12, 2, 3, 4, 1, 1, 1, 6, 1, 1, 1, 1, 4, 1, 1, 1, 1, 1, 1, 8},
+        {40, 12, 1, 1, 1, 40, 6, 3, 1, 0, 0, 0, 0, 1, 1, 1, 1, 1, 2, 1, 1, 1, 1, 1, 1, 1},
     };
+    private static final int CROWD = 3;
 
     private static int chosen(int[] weights) {
         int all = 0;
@@ -655,6 +658,7 @@ public final class ModelTest {
     }
 
     private static int wrong = 0;
+    private static int longest = 0;
     private static final long[] seen = new long[26];
     private static final long[] thrown = new long[26];
 
@@ -664,6 +668,10 @@ public final class ModelTest {
         for (int i = 0; i < 512; i++) {
             int call = i == 511 ? 25 : chosen(WEIGHTS[number % WEIGHTS.length]);
             int[] a = argumentsFor(w, call);
+            if (number % WEIGHTS.length == CROWD && call <= 1) {
+                a[call + 1] = 1;
+            }
+            longest = Math.max(longest, w.now.row.size());
             long want = due(w, call, a[0], a[1], a[2], a[3]);
             long got = got(x, call, a[0], a[1], a[2], a[3]);
             seen[call]++;
@@ -688,6 +696,10 @@ public final class ModelTest {
                 wrong++;
                 System.out.println("call " + call + " was answered too seldom to tell anything");
             }
+        }
+        if (longest < 66) {
+            wrong++;
+            System.out.println("the longest row had " + longest + " entries, too few to tell anything");
         }
         System.out.println(wrong == 0 ? "ModelTest: " + RUNS + " runs are as the model" : wrong + " are wrong");
         if (wrong != 0) {

@@ -247,8 +247,47 @@ public final class PromiseTest {
         StampedSlots y = new StampedSlots();
         due("an empty row", -1, y.goOn(0));
         due("behind the empty row", 3, y.walker(0, 0));
+        due("saved", 1, y.count(9));
+        crowd();
         thrown(x, "walker -1", INDEX, () -> x.goOn(-1));
         thrown(x, "walker 4", INDEX, () -> x.goOn(4));
+    }
+
+    /** The longest row that there can be: 64 things of one cell, and a tombstone for each walker. */
+    private static void crowd() {
+        StampedSlots x = new StampedSlots();
+        for (int i = 0; i < 64; i++) {
+            due("put", 1000 * i, x.put(i, 1, i % 3 == 2 ? 2 : 0));
+        }
+        for (int walker = 0; walker < 4; walker++) {
+            for (int i = 0; i <= 63 - walker; i++) {
+                due("goOn", 1000 * i, x.goOn(walker));
+            }
+            due("take", 63 - walker, x.take(walker));
+        }
+        for (int i = 60; i < 64; i++) {
+            due("put again", 1000 * i + 1, x.put(i, 1, 0));
+        }
+        due("things", 64, x.count(0));
+        due("tombstones", 4, x.count(1));
+        due("free", 0, x.count(3));
+        due("the last place", 63, x.thing(63001, 4));
+        due("the sum, no room", 63 * 32, x.fire());
+        for (int walker = 0; walker < 4; walker++) {
+            due("behind it", 4, x.walker(walker, 2));
+            due("from the tombstone on", 60001, x.goOn(walker));
+        }
+        due("no tombstones", 0, x.count(1));
+        due("the last one's value", 63, x.remove(63001));
+        row(x, firstBegins(63, 60));
+    }
+
+    private static int[] firstBegins(int many, int firstStamped) {
+        int[] handles = new int[many];
+        for (int i = 0; i < many; i++) {
+            handles[i] = 1000 * i + (i >= firstStamped ? 1 : 0);
+        }
+        return handles;
     }
 
     private static void take() {
@@ -484,6 +523,7 @@ public final class PromiseTest {
         }
         thrown(x, "the oldest are dropped", STATE, () -> x.undo());
         due("the buffer stays", 1, x.clearBuffer());
+        undoOfAll();
         StampedSlots y = with("1*4!,2*4,3*4,4*2");
         y.goOn(1);
         y.goOn(1);
@@ -503,6 +543,50 @@ public final class PromiseTest {
         y.undo();
         due("the walker", 0, y.walker(1, 1));
         due("the stale handle is good again", 0, y.refusal(0));
+    }
+
+    /** Each undoable call, undone at once, leaves all as it was, but for the saved states. */
+    private static void undoOfAll() {
+        for (int call = 0; call < 10; call++) {
+            StampedSlots x = with("1*1!,2*2+,3*1,4*3,5*1");
+            x.goOn(0);
+            x.goOn(0);
+            x.goOn(1);
+            x.fire();
+            x.remove(3000);
+            type(x, "9*4");
+            StampedSlots y = with("1*1!,2*2+,3*1,4*3,5*1");
+            y.goOn(0);
+            y.goOn(0);
+            y.goOn(1);
+            y.fire();
+            y.remove(3000);
+            type(y, "9*4");
+            undoable(x, call);
+            due("saved by call " + call, 6, x.count(9));
+            due("undo of call " + call, 5, x.undo());
+            if (call == 9) {
+                type(x, "9*4");
+            }
+            y.change(1000, 2);
+            due("one less in the other one", 5, y.undo());
+            due("the state behind undo of call " + call, y.digest(), x.digest());
+        }
+    }
+
+    private static void undoable(StampedSlots x, int call) {
+        switch (call) {
+            case 0: x.put(1, 4, 2); break;
+            case 1: x.putBehind(1000, 1, 4, 0); break;
+            case 2: x.remove(1000); break;
+            case 3: x.change(1000, 77); break;
+            case 4: x.restart(1); break;
+            case 5: x.goOn(1); break;
+            case 6: x.take(0); break;
+            case 7: x.fire(); break;
+            case 8: x.together(); break;
+            default: x.putAll(); break;
+        }
     }
 
     /** Some numbers of the state that do not depend on the saved states. */
@@ -659,6 +743,9 @@ public final class PromiseTest {
         StampedSlots y = with("1*4,1*4,1*4,1*3");
         due("no growth", 1, y.gap(0));
         due("the last cell", 15, y.gap(1));
+        y.remove(0);
+        due("from the first cell on", 4, y.gap(0));
+        due("the first cell", 0, y.gap(1));
         thrown(y, "2", ARGUMENT, () -> y.gap(2));
         thrown(y, "-1", ARGUMENT, () -> y.gap(-1));
     }
@@ -712,7 +799,7 @@ public final class PromiseTest {
         due("empty", Double.doubleToLongBits(0.0), Double.doubleToLongBits(x.fullness()));
         x.put(1, 3, 0);
         due("3 of 16", Double.doubleToLongBits(3.0 / 16), Double.doubleToLongBits(x.fullness()));
-        due("full", Double.doubleToLongBits(1.0), Double.doubleToLongBits(full().fullness()));
+        due("full store", Double.doubleToLongBits(1.0), Double.doubleToLongBits(full().fullness()));
     }
 
     private static void digest() {
