@@ -817,7 +817,8 @@ public final class PromiseTest {
         x.goOn(0);
         x.together();
         digestAsTold(x);
-        for (int i = 0; i < 64; i++) {
+        // More things would take more than 512 calls; RangeTest tells their digests in another way.
+        for (int i = 0; i <= 32; i++) {
             StampedSlots y = new StampedSlots();
             for (int j = 0; j < i; j++) {
                 y.put(j, 1, j % 3);
@@ -839,13 +840,16 @@ public final class PromiseTest {
         for (int what = 0; what <= 9; what++) {
             add(x.count(what));
         }
-        for (int place = 0; place < x.count(0); place++) {
-            add(x.at(place));
+        int things = x.count(0);
+        for (int place = 0; place < things; place++) {
+            int handle = x.at(place);
+            add(handle);
             for (int what = 0; what <= 5; what++) {
-                add(x.thing(x.at(place), what));
+                add(x.thing(handle, what));
             }
         }
-        for (int cell = 0; cell < x.count(2); cell++) {
+        int cells = x.count(2);
+        for (int cell = 0; cell < cells; cell++) {
             add(x.cell(cell, 0));
             add(x.cell(cell, 1));
         }
