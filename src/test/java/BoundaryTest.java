@@ -374,6 +374,7 @@ public final class BoundaryTest extends Check {
         sentence("The row", "in the row it leaves a tombstone, if a walker stands on it",
                 BoundaryTest::tombstoneUnderWalkers);
         sentence("The row", "the tombstone goes when the last walker leaves it.", BoundaryTest::lastWalkerLeaves);
+        sentence("The row", "in the row it leaves a tombstone", BoundaryTest::mostTombstones);
         sentence("The row", "Tombstones count for nothing but walkers.", BoundaryTest::tombstonesCountForNothing);
         sentence("The row", "A thing has a value, 0 to 999", BoundaryTest::leastAndMostValue);
         sentence("The row", "0, plain", BoundaryTest::plain);
@@ -404,6 +405,46 @@ public final class BoundaryTest extends Check {
         y.remove(1000);
         y.remove(3000);
         row(y, 4000, 2000, 1);
+    }
+
+    /** 64 things, and a tombstone for each walker: no row is longer. */
+    private static StampedSlots longestRow(int ahead) {
+        StampedSlots x = filled(64, 1);
+        for (int w = 0; w < 4; w++) {
+            for (int i = 0; i <= w + ahead; i++) {
+                x.goOn(w);
+            }
+        }
+        for (int w = 0; w < 4; w++) {
+            x.take(w);
+            x.put(100 + w, 1, 0);
+        }
+        counts(x, 64, 4, 64, 0);
+        return x;
+    }
+
+    private static void mostTombstones() {
+        StampedSlots x = longestRow(0);
+        for (int w = 0; w < 4; w++) {
+            walker(x, w, 2, -1, 64);
+        }
+        due("the last place", 3001, x.at(63));
+        due("it is the last", 63, x.thing(3001, 4));
+        due("the sum", 2016 - (0 + 1 + 2 + 3) + (100 + 101 + 102 + 103), x.fire());
+        due("the first is left", 2, x.restart(0));
+        due("one is gone", 3, x.count(1));
+        due("the last is left", 4000, x.goOn(3));
+        due("two are gone", 2, x.count(1));
+        walker(x, 1, 2, -1, 64);
+        walker(x, 2, 2, -1, 64);
+        walker(x, 3, 1, 4000, 63);
+        StampedSlots y = longestRow(60);
+        for (int w = 0; w < 4; w++) {
+            walker(y, w, 2, -1, 4);
+            due("goOn", 60001, y.goOn(w));
+        }
+        due("all are gone", 0, y.count(1));
+        due("the last place", 63001, y.at(63));
     }
 
     private static void freeAtOnce() {

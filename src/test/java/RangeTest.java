@@ -171,6 +171,7 @@ public final class RangeTest extends Check {
         walker(x, 2, 0, -1, 6);
         due("the first goes to it", 5000, x.goOn(0));
         due("the second passes on", 1000, x.goOn(1));
+        aheadOfEachWalker();
         x.remove(1000);
         due("behind the thing, ahead of the tombstone", 1001, x.putBehind(3000, 6, 1, 0));
         walker(x, 1, 2, -1, 2);
@@ -190,6 +191,23 @@ public final class RangeTest extends Check {
         outOf("putBehind", INDEX, x, (s, handle) -> s.putBehind(handle, 0, 1, 0),
                 -1, 1, 1000, 2000, 2001, 3000, 15999, 16000, LEAST, MOST);
         due("a good one", 2001, x.putBehind(0, 0, 1, 0));
+    }
+
+    private static void aheadOfEachWalker() {
+        for (int walker = 0; walker < 4; walker++) {
+            StampedSlots x = filled(3, 1);
+            x.goOn(walker);
+            x.goOn(walker);
+            x.putBehind(0, 9, 1, 0);
+            walker(x, walker, 1, 1000, 1);
+            x.putBehind(1000, 9, 1, 0);
+            walker(x, walker, 1, 1000, 2);
+            x.remove(3000);
+            walker(x, walker, 1, 1000, 2);
+            x.remove(0);
+            due("take", 1, x.take(walker));
+            due("the next", 4000, x.goOn(walker));
+        }
     }
 
     private static void putBehindValue() {
@@ -1235,20 +1253,25 @@ public final class RangeTest extends Check {
         StampedSlots x = new StampedSlots();
         for (int i = 1; i <= 64; i++) {
             x.put(0, 1, 0);
-            digestOfFilled(x, i, i <= 16 ? 16 : i <= 32 ? 32 : 64);
+            digestOfFilled(x, i, i <= 16 ? 16 : i <= 32 ? 32 : 64, 0);
+        }
+        // Down to 1 of 64, the least share but 0; the cells stay, and those left have the stamp 1.
+        for (int i = 63; i >= 0; i--) {
+            x.remove(1000 * i);
+            digestOfFilled(x, i, 64, 64 - i);
         }
     }
 
-    private static void digestOfFilled(StampedSlots x, int things, int cells) {
+    private static void digestOfFilled(StampedSlots x, int things, int cells, int removed) {
         int free = cells - things;
         int begins = things < 64 ? things : -1;
         hash = 3251;
-        add(things, 0, cells, free, 0, 0, things, 0, 0, Math.min(things, 6));
+        add(things, 0, cells, free, 0, 0, things + removed, removed, 0, Math.min(things + removed, 6));
         for (int i = 0; i < things; i++) {
             add(1000 * i, 0, 1, 0, 0, i, 0);
         }
         for (int i = 0; i < cells; i++) {
-            add(0, i < things ? 1000 * i : -1);
+            add(i < things || removed == 0 ? 0 : 1, i < things ? 1000 * i : -1);
         }
         addWalkersAhead(things);
         for (int size = 1; size <= 4; size++) {
