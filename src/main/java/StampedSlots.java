@@ -48,7 +48,7 @@ public final class StampedSlots {
             throw new IllegalStateException("there is no room");
         }
         history.save(now);
-        return now.slots.handleOf(now.addLast(value, size, kind));
+        return now.slots.handleOf(now.addAt(now.row.size(), value, size, kind));
     }
 
     public int putBehind(int handle, int value, int size, int kind)
@@ -316,6 +316,9 @@ public final class StampedSlots {
 
     public double fullness() {
         int cells = now.slots.cellsNow();
+        if (cells <= 0) {
+            return 0.0;
+        }
         return (double) (cells - now.slots.freeCells()) / (double) cells;
     }
 
@@ -326,7 +329,11 @@ public final class StampedSlots {
         }
         hash = hashThings(hash);
         hash = hashCellsAndWalkers(hash);
-        hash = hashWhatWouldBe(hash);
+        hash = hashGaps(hash);
+        hash = 31 * hash + tryEvents(DIGEST_EVENTS);
+        hash = 31 * hash + trial.row.things();
+        hash = 31 * hash + trial.slots.cellsNow();
+        hash = hashRoom(hash);
         return hashBuffer(hash);
     }
 
@@ -358,16 +365,17 @@ public final class StampedSlots {
         return hash;
     }
 
-    private long hashWhatWouldBe(long before) {
+    private long hashGaps(long before) {
         long hash = before;
         for (int size = 1; size <= MOST_SIZE; size++) {
             hash = 31 * hash + begins(size);
         }
         hash = 31 * hash + gap(0);
-        hash = 31 * hash + gap(1);
-        hash = 31 * hash + tryEvents(DIGEST_EVENTS);
-        hash = 31 * hash + trial.row.things();
-        hash = 31 * hash + trial.slots.cellsNow();
+        return 31 * hash + gap(1);
+    }
+
+    private long hashRoom(long before) {
+        long hash = before;
         for (int size = 1; size <= MOST_SIZE; size++) {
             hash = 31 * hash + room(size, false);
             hash = 31 * hash + room(size, true);
@@ -421,7 +429,8 @@ public final class StampedSlots {
             int end = buffer.indexOf(',', start);
             int value = buffer.numberIn(start, star);
             int size = buffer.numberIn(star + 1, star + 2);
-            if (now.addLast(value, size, kindOfSign(buffer.codeAt(end - 1))) != NONE) {
+            int kind = kindOfSign(buffer.codeAt(end - 1));
+            if (now.addAt(now.row.size(), value, size, kind) != NONE) {
                 many++;
             }
             start = end + 1;
@@ -659,7 +668,7 @@ public final class StampedSlots {
 
     /** The order of the things, each by the cell where it begins, with tombstones and walkers. */
     private static final class Row {
-        private static final int TOMBSTONE = -1;
+        private static final int TOMBSTONE = NONE;
         private static final int AHEAD = -1;
         private static final int BEHIND = -2;
         // Each thing has a cell of its own, and each tombstone a walker.
@@ -692,8 +701,9 @@ public final class StampedSlots {
             return index >= 0 && index < length && index < MOST_ENTRIES;
         }
 
-        private boolean isThingIn(int index) {
-            return isEntry(index) && entries[index] != TOMBSTONE;
+        /** The begin of the thing in an entry; NONE for a tombstone, and where no entry is. */
+        private int thingIn(int index) {
+            return isEntry(index) ? entries[index] : NONE;
         }
 
         int things() {
@@ -707,7 +717,7 @@ public final class StampedSlots {
         private int thingsFrom(int first) {
             int many = 0;
             for (int index = Math.max(first, 0); index < length; index++) {
-                if (entries[index] != TOMBSTONE) {
+                if (thingIn(index) != NONE) {
                     many++;
                 }
             }
@@ -717,9 +727,10 @@ public final class StampedSlots {
         int thingAtPlace(int place) {
             int passed = 0;
             for (int index = 0; index < length; index++) {
-                if (entries[index] != TOMBSTONE) {
+                int begin = thingIn(index);
+                if (begin != NONE) {
                     if (passed == place) {
-                        return entries[index];
+                        return begin;
                     }
                     passed++;
                 }
@@ -729,8 +740,8 @@ public final class StampedSlots {
 
         int placeOf(int begin) {
             int passed = 0;
-            for (int index = 0; index < length && entries[index] != begin; index++) {
-                if (entries[index] != TOMBSTONE) {
+            for (int index = 0; index < length && thingIn(index) != begin; index++) {
+                if (thingIn(index) != NONE) {
                     passed++;
                 }
             }
@@ -740,7 +751,7 @@ public final class StampedSlots {
         /** The index of the thing's entry; behind the last one if there is no such thing. */
         int indexOf(int begin) {
             for (int index = 0; index < length; index++) {
-                if (entries[index] == begin) {
+                if (thingIn(index) == begin) {
                     return index;
                 }
             }
@@ -750,8 +761,9 @@ public final class StampedSlots {
         int list(int[] target) {
             int many = 0;
             for (int index = 0; index < length; index++) {
-                if (entries[index] != TOMBSTONE && many < target.length) {
-                    target[many] = entries[index];
+                int begin = thingIn(index);
+                if (begin != NONE && many < target.length) {
+                    target[many] = begin;
                     many++;
                 }
             }
@@ -772,8 +784,9 @@ public final class StampedSlots {
             }
         }
 
-        private void delete(int index) {
-            if (!isEntry(index)) {
+        /** A tombstone on which no walker stands goes. */
+        private void sweep(int index) {
+            if (!isEntry(index) || entries[index] != TOMBSTONE || walkersOn(index) > 0) {
                 return;
             }
             System.arraycopy(entries, index + 1, entries, index, length - index - 1);
@@ -790,12 +803,6 @@ public final class StampedSlots {
             if (isEntry(index)) {
                 entries[index] = TOMBSTONE;
                 sweep(index);
-            }
-        }
-
-        private void sweep(int index) {
-            if (isEntry(index) && entries[index] == TOMBSTONE && walkersOn(index) == 0) {
-                delete(index);
             }
         }
 
@@ -824,12 +831,11 @@ public final class StampedSlots {
             if (index == AHEAD) {
                 return STANDS_AHEAD;
             }
-            return isThingIn(index) ? STANDS_ON_THING : STANDS_ON_TOMBSTONE;
+            return thingIn(index) != NONE ? STANDS_ON_THING : STANDS_ON_TOMBSTONE;
         }
 
         int thingUnder(int walker) {
-            int index = indexUnder(walker);
-            return isThingIn(index) ? entries[index] : NONE;
+            return thingIn(indexUnder(walker));
         }
 
         int thingsBehind(int walker) {
@@ -854,7 +860,7 @@ public final class StampedSlots {
 
         private int nextThing(int first) {
             for (int index = first; index < length; index++) {
-                if (isThingIn(index)) {
+                if (thingIn(index) != NONE) {
                     return index;
                 }
             }
@@ -895,10 +901,6 @@ public final class StampedSlots {
             thingsMoved = other.thingsMoved;
         }
 
-        int addLast(int value, int size, int kind) {
-            return addAt(row.size(), value, size, kind);
-        }
-
         int addAt(int index, int value, int size, int kind) {
             int begin = slots.lowestFor(size);
             if (begin != NONE) {
@@ -920,22 +922,19 @@ public final class StampedSlots {
             int many = row.list(toFire);
             int sum = 0;
             for (int turn = 0; turn < many; turn++) {
-                sum += fireThing(toFire[turn]);
+                int begin = toFire[turn];
+                int value = slots.valueAt(begin);
+                int kind = slots.kindAt(begin);
+                sum += value;
+                slots.setTimesFired(begin, slots.timesFired(begin) + 1);
+                if (kind == ONCE) {
+                    drop(begin);
+                } else if (kind == DOUBLE) {
+                    addAt(row.size(), value, slots.sizeAt(begin), PLAIN);
+                }
             }
             events++;
             return sum;
-        }
-
-        private int fireThing(int begin) {
-            int value = slots.valueAt(begin);
-            int kind = slots.kindAt(begin);
-            slots.setTimesFired(begin, slots.timesFired(begin) + 1);
-            if (kind == ONCE) {
-                drop(begin);
-            } else if (kind == DOUBLE) {
-                addLast(value, slots.sizeAt(begin), PLAIN);
-            }
-            return value;
         }
 
         /** A target is never above its thing, so all that begin below have made way before. */

